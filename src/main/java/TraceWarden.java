@@ -41,9 +41,9 @@ public final class TraceWarden {
         length = 0;
         assertion = new Assertion();
         reader = new Reader(text, assertion);
-        asking = new Asking();
-        conditions = new Conditions();
-        monitor = new Monitor();
+        asking = new Asking(assertion);
+        conditions = new Conditions(asking);
+        monitor = new Monitor(conditions);
         circuit = new Circuit(monitor);
         run = new Run(monitor);
         written = new StringBuilder();
@@ -73,14 +73,14 @@ public final class TraceWarden {
         if (!assertion.fits) {
             throw new UnsupportedOperationException("too many obligations");
         }
-        asking.fill(assertion);
-        if (!conditions.explore(asking, assertion.wholeObligation())) {
+        asking.fill();
+        if (!conditions.explore(assertion.wholeObligation())) {
             throw new UnsupportedOperationException("too many conditions");
         }
         // Nothing that answers other calls may change before this line: what throws leaves it all.
         obligations = assertion.obligations;
         conditionsMet = conditions.count;
-        monitor.build(conditions);
+        monitor.build();
         circuit.renew();
         run.end();
         compiled = true;
@@ -581,23 +581,22 @@ public final class TraceWarden {
             0xAAAAAAAAAAAAAAAAL, 0xCCCCCCCCCCCCCCCCL, 0xF0F0F0F0F0F0F0F0L,
             0xFF00FF00FF00FF00L, 0xFFFF0000FFFF0000L, 0xFFFFFFFF00000000L};
 
+        private final Assertion assertion;
         private final long[] tables;
         /** What each property asks by the letter, in the word, that are being worked out. */
         private final long[] ofNode;
-        private Assertion assertion;
         private int obligations;
         private int words;
 
-        private Asking() {
+        private Asking(Assertion assertion) {
+            this.assertion = assertion;
             tables = new long[LETTERS * MAX_OBLIGATIONS * MAX_WORDS];
             ofNode = new long[MAX_TEXT];
-            assertion = null;
             obligations = 0;
             words = 0;
         }
 
-        private void fill(Assertion compiledOne) {
-            assertion = compiledOne;
+        private void fill() {
             obligations = assertion.obligations;
             words = obligations <= OBLIGATIONS_IN_WORD ? 1 : 1 << (obligations - OBLIGATIONS_IN_WORD);
             for (int letter = 0; letter < LETTERS; letter++) {
@@ -692,6 +691,7 @@ public final class TraceWarden {
 
     /** The conditions that come of the first one, as tables like those of Asking, and where letters lead. */
     private static final class Conditions {
+        private final Asking asking;
         /** One row more than there may be conditions: for one that may turn out to be known. */
         private final long[] tables;
         private final int[] leads;
@@ -701,7 +701,8 @@ public final class TraceWarden {
         private int words;
         private int count;
 
-        private Conditions() {
+        private Conditions(Asking asking) {
+            this.asking = asking;
             tables = new long[(MAX_CONDITIONS + 1) * MAX_WORDS];
             leads = new int[MAX_CONDITIONS * LETTERS];
             leastSets = new int[1 << MAX_OBLIGATIONS];
@@ -711,7 +712,7 @@ public final class TraceWarden {
         }
 
         /** Whether there were not too many. */
-        private boolean explore(Asking asking, int whole) {
+        private boolean explore(int whole) {
             words = asking.words;
             count = 1;
             for (int word = 0; word < words; word++) {
@@ -720,7 +721,7 @@ public final class TraceWarden {
             for (int from = 0; from < count && from < MAX_CONDITIONS; from++) {
                 findLeastSets(from);
                 for (int letter = 0; letter < LETTERS; letter++) {
-                    putIn(asking, letter);
+                    putIn(letter);
                     int to = find();
                     if (to >= MAX_CONDITIONS) {
                         return false;
@@ -765,7 +766,7 @@ public final class TraceWarden {
         }
 
         /** Writes into the row behind the known ones what becomes of the condition in hand by a letter. */
-        private void putIn(Asking asking, int letter) {
+        private void putIn(int letter) {
             int row = count * MAX_WORDS;
             for (int word = 0; word < words; word++) {
                 long enough = NEVER;
@@ -809,9 +810,9 @@ public final class TraceWarden {
     private static final class Monitor {
         private static final int FAILED = -1;
 
+        private final Conditions conditions;
         private int states;
         private final int[] table;
-        private Conditions conditions;
         private final boolean[] failing;
         /** Conditions that nothing tells apart so far have the same group: the number of the first of them. */
         private final int[] group;
@@ -819,10 +820,10 @@ public final class TraceWarden {
         private final int[] stateOfGroup;
         private final int[] groupOfState;
 
-        private Monitor() {
+        private Monitor(Conditions conditions) {
+            this.conditions = conditions;
             states = 0;
             table = new int[MAX_CONDITIONS * LETTERS];
-            conditions = null;
             failing = new boolean[MAX_CONDITIONS];
             group = new int[MAX_CONDITIONS];
             finerGroup = new int[MAX_CONDITIONS];
@@ -838,8 +839,7 @@ public final class TraceWarden {
             return state < 0 || state >= states ? FAILED : table[state * LETTERS + letter];
         }
 
-        private void build(Conditions explored) {
-            conditions = explored;
+        private void build() {
             markFailing();
             groupConditions();
             numberStates();
@@ -1100,6 +1100,7 @@ public final class TraceWarden {
             return reached;
         }
 
+        /** A piece that has failed before its last letter fails, too: no letter leads out of FAILED. */
         private int shortestFailingEnd() {
             for (int piece = 0; piece < cycles; piece++) {
                 if (walk(monitor.firstState(), cycles - piece) == Monitor.FAILED) {

@@ -121,7 +121,7 @@ public final class CallsTest {
         switch (chance.below(3)) {
             case 0:
                 Object size = none ? "throws.IllegalStateException" : x < 0 || x > 4 ? "throws.IllegalArgumentException"
-                    : new int[] {k, compiled.obligationCount, compiled.conditionCount, compiled.bits, compiled.gates}[x];
+                    : sizes()[x];
                 check("size(" + x + ")", size, () -> warden.size(x));
                 break;
             case 1:
@@ -136,6 +136,11 @@ public final class CallsTest {
                 check("output(" + x + "," + y + "," + z + ")", output, () -> warden.output(x, y, z));
                 break;
         }
+    }
+
+    private int[] sizes() {
+        return new int[] {compiled.next.length, compiled.obligationCount, compiled.conditionCount, compiled.bits,
+            compiled.gates};
     }
 
     private int state() {
@@ -194,7 +199,8 @@ public final class CallsTest {
                 break;
             case 4:
                 said = compiled == null ? "none" : trace == null ? "ready " + compiled.next.length
-                    : state() < 0 ? "failed " + trace.length + " by " + window() : "run " + trace.length + " in " + state();
+                    : state() < 0 ? "failed " + trace.length + " by " + window()
+                    : "run " + trace.length + " in " + state();
                 check("report " + said, said.length(), warden::report);
                 break;
             default:

@@ -93,16 +93,10 @@ final class Texts {
         String signs = "GX{}>:()&|Wabc01!,*+-/[]2359z~";
         char sign = signs.charAt(chance.below(signs.length()));
         int at = chance.below(text.length() + 1);
-        switch (chance.below(4)) {
-            case 0:
-                return text.substring(0, at);
-            case 1:
-                return text.substring(0, at) + text.substring(Math.min(at + 1, text.length()));
-            case 2:
-                return text.substring(0, at) + sign + text.substring(Math.min(at + 1, text.length()));
-            default:
-                String longer = text.substring(0, at) + sign + text.substring(at);
-                return longer.substring(0, Math.min(40, longer.length()));
-        }
+        String before = text.substring(0, at);
+        String behind = text.substring(Math.min(at + 1, text.length()));
+        String[] ways = {before, before + behind, before + sign + behind, before + sign + text.substring(at)};
+        String made = ways[chance.below(4)];
+        return made.substring(0, Math.min(40, made.length()));
     }
 }
