@@ -5,8 +5,18 @@ import java.util.concurrent.Callable;
 final class Checks {
     private static int wrong = 0;
     private static int made = 0;
+    /** What all answers from now on are asked for. */
+    private static String about = "";
 
     private Checks() {
+    }
+
+    static void about(String words) {
+        about = words;
+    }
+
+    static int made() {
+        return made;
     }
 
     static void due(String what, Object want, Callable<?> call) {
@@ -18,7 +28,7 @@ final class Checks {
         if (!Objects.equals(String.valueOf(want), String.valueOf(got))) {
             wrong++;
             if (wrong <= 50) {
-                System.out.println(what + " answered " + got + ", due is " + want);
+                System.out.println(about + what + " answered " + got + ", due is " + want);
             }
         }
     }

@@ -5,20 +5,22 @@ public final class FaultTest {
 
     public static void main(String[] args) {
         Chance chance = new Chance(11);
-        TraceWarden warden = new TraceWarden();
         for (int walk = 0; walk < 150; walk++) {
             // Some walks go deep first: the limit on the depth is seen only there.
             String openers = walk % 3 == 0 ? "" : walk % 3 == 1 ? "G!X([{" : "{[(!";
-            walk(warden, chance, openers);
+            walk(chance, openers);
         }
         Checks.finish();
     }
 
-    private static void walk(TraceWarden warden, Chance chance, String openers) {
+    private static void walk(Chance chance, String openers) {
         StringBuilder text = new StringBuilder();
         for (int i = 0; i < 40; i++) {
             StringBuilder ways = new StringBuilder();
+            TraceWarden warden = new TraceWarden();
             for (char c = 33; c <= 126; c++) {
+                // A text takes up to eight calls: no object is used for more than 512 of them.
+                warden = c % 32 == 0 ? new TraceWarden() : warden;
                 String longer = text.toString() + c;
                 int fault = Reference.faultIn(longer);
                 check(warden, longer, fault);
