@@ -128,15 +128,19 @@ public final class CallBoundariesTest {
         return warden;
     }
 
-    /** All ways in which things can stand; each time new objects. */
+    /** All ways in which things can stand, with a report of each written before; each time new objects. */
     private static TraceWarden[] allWays() {
         TraceWarden compiledAgain = ran("G(!a|Xb)", 3, 3);
         compiledAgain.compile();
         TraceWarden refusedOnly = Checks.with("(a");
         Checks.answer(refusedOnly::compile);
-        return new TraceWarden[] {new TraceWarden(), Checks.with("G(!a|Xb)"), refusedOnly,
+        TraceWarden[] ways = {new TraceWarden(), Checks.with("G(!a|Xb)"), refusedOnly,
             Checks.compiled("G(!a|Xb)"), compiledAgain, Checks.begun("G(!a|Xb)"), Checks.begun("G(!a|Xb)", 1, 2, 3),
             ran("G(!a|Xb)", 60, 3), Checks.begun("G(!a|Xb)", 1, 3, 0), Checks.begun("X0"), Checks.compiled("X0")};
+        for (TraceWarden warden : ways) {
+            warden.report();
+        }
+        return ways;
     }
 
     /** All that an object tells without being changed, but for its text; some 200 calls. */
@@ -231,7 +235,8 @@ public final class CallBoundariesTest {
         Checks.due("step of a full one", STATE, () -> ran("Ga", 60, 1).step(-1));
         // Too many obligations, and then too many conditions, in a text that is no property either.
         for (String text : new String[] {"XXXXXXXXXa)", "{a*9}>0)", "{a*9}>", "{a*9", "(G{b,c*3-5}:a", "{a*9}>z",
-            "GGGGGGGGGGGGGa", "{[[[[[[[[a*9]*9]*9]*9]*9]*9]*9]*9]*9}>"}) {
+            "GGGGGGGGGGGGGa", "GGGGGGGGGGGa)", "XXXXXXXXXXXa)", "{a*9}>Xb)", "{[a,b]*9}>c)", "{a*9}:Gb}",
+            "(Ga&{b*9}:Gc", "{[[[[[[[[a*9]*9]*9]*9]*9]*9]*9]*9]*9}>"}) {
             Checks.due("compile " + text, ARGUMENT, () -> Checks.with(text).compile());
         }
     }

@@ -39,6 +39,11 @@ public final class MonitorBoundariesTest {
         sentences.test("The properties are: the whole one; each G and W; what stands behind an X; what stands behind "
             + "a : (one that is so for two reasons counts once).", MonitorBoundariesTest::properties);
         sentences.test("There may be at most 9 obligations.", MonitorBoundariesTest::tooManyObligations);
+        sentences.test("What is ASKED by a letter: a boolean asks nothing if it is true of it, else what can't be. "
+            + "X p: p. G p: what p asks, and itself. & and |: what both, what one of the two asks. (p W q): what q "
+            + "asks; or what p asks, and itself.", MonitorBoundariesTest::askedByProperties);
+        sentences.test("A place: nothing if its boolean isn't true; otherwise all places that follow it, and, if it is "
+            + "a last one, what p asks (for >) or p (for :).", MonitorBoundariesTest::askedByPlaces);
         sentences.test("Two that say the same are one.", MonitorBoundariesTest::sameConditions);
         sentences.test("There may be at most 40 conditions that come of the first one, by any letters (that which "
             + "nothing is enough for, and that which nothing asks, count, too).",
@@ -298,6 +303,49 @@ public final class MonitorBoundariesTest {
             Checks.due(text, UNSUPPORTED, warden::compile);
             Checks.due(text + " is a property", -1, warden::fault);
         }
+    }
+
+    /** How many conditions there are, and how many states of them. */
+    private static void conditions(String text, int due, int states) {
+        size(text, 2, due);
+        states(text, states);
+    }
+
+    private static void askedByProperties() {
+        // The whole property; that which nothing asks; that which nothing is enough for.
+        conditions("a", 3, 2);
+        conditions("1", 2, 1);
+        conditions("0", 2, 0);
+        // And what stands behind the X, or both, or one of the two.
+        conditions("Xa", 4, 3);
+        conditions("(Xa&Xb)", 4, 3);
+        conditions("(Xa|Xb)", 4, 3);
+        conditions("(a&Xb)", 4, 3);
+        conditions("(a|Xb)", 4, 3);
+        // G and W ask themselves again.
+        conditions("Ga", 2, 1);
+        conditions("G0", 2, 0);
+        conditions("G1", 1, 1);
+        conditions("(aWb)", 3, 2);
+        conditions("(1W0)", 1, 1);
+        conditions("(0W1)", 2, 1);
+        conditions("XGa", 3, 2);
+    }
+
+    private static void askedByPlaces() {
+        // A first place asks at once: itself it is never asked, unless it follows.
+        conditions("{a}>b", 3, 2);
+        conditions("{a}:b", 4, 3);
+        conditions("{a+}>b", 4, 2);
+        conditions("{a+}:b", 4, 3);
+        conditions("{a,b}>c", 4, 3);
+        conditions("{a,b}:c", 5, 4);
+        conditions("{[a/b],c}:0", 5, 3);
+        conditions("{a*1-2}>0", 3, 2);
+        conditions("{0}>0", 2, 1);
+        conditions("{1}>0", 2, 0);
+        conditions("{1}:0", 3, 0);
+        conditions("{1,1}:1", 4, 1);
     }
 
     private static void sameConditions() {
