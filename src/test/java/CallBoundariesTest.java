@@ -679,9 +679,48 @@ public final class CallBoundariesTest {
                 Checks.due(texts[i] + " behind others " + w, due[i][w], () -> one.size(w));
             }
         }
+        for (int i = texts.length - 1; i >= 0; i--) {
+            Checks.put(one, texts[i]).compile();
+            for (int what = 0; what < 5; what++) {
+                int w = what;
+                Checks.due(texts[i] + " behind greater ones " + w, due[i][w], () -> one.size(w));
+            }
+        }
         TraceWarden written = Checks.compiled("Ga");
         Checks.put(written, GREATEST);
         Checks.due("of what was compiled, not of the text", 1, () -> written.size(0));
+        nothingIsLeft();
+    }
+
+    /** Nothing of what was compiled before is left in what is compiled then, whichever the two are. */
+    private static void nothingIsLeft() {
+        String[] texts = {"0", "1", "Ga", "a", "(Ga|Gb)", "X{a+}>Xb", "{a,[b/c]+}>(bWa)", "{a+,b}:Xc", "XXXXXXXXa",
+            "G{a,1*3-5}:1", "{b+,[c]*2,[a,a,c]}:Gc", "{a+}>{b,c,c*1-3,a}:b", "(X{c+,1*2}:bWGGa)",
+            "(({a*3,c,a+}:c&G1)W((cW!0)&(0|c)))", "X!a", "({c+,b*3,a*2}>bWG!b)", "(XcWXb)", "{[[a]*2-4]}:({b+}:cWGc)",
+            "XXc", GREATEST};
+        for (String before : texts) {
+            for (String then : texts) {
+                TraceWarden warden = Checks.compiled(before);
+                warden.size(4);
+                Checks.put(warden, then).compile();
+                Checks.same(then + " behind " + before, table(Checks.compiled(then)), table(warden));
+            }
+        }
+    }
+
+    /** All sizes and states that come of state 0; up to some 320 calls. */
+    private static String table(TraceWarden warden) {
+        StringBuilder all = new StringBuilder();
+        for (int what = 0; what < 5; what++) {
+            all.append(warden.size(what)).append(' ');
+        }
+        int states = warden.size(0);
+        for (int state = 0; state < states; state++) {
+            for (int letter = 0; letter < 8; letter++) {
+                all.append(warden.next(state, letter)).append(' ');
+            }
+        }
+        return all.toString();
     }
 
     private static void noSize() {
